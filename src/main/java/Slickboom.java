@@ -18,6 +18,8 @@ public final class Slickboom {
     private static final int MOST_SHIPS = 4, MOST_HOLE = 99, LEVEL_LITRES = 1000;
     private static final int MOST_LITRES = 100000;
     private static final int LAST_HOUR = 2000, MOST_HOURS = 48, TIDE_HOURS = 12, HIGH_TIDE = 6;
+    /** Above all litres that 4 SHIPS can ever have. */
+    private static final int ENDLESS_ROOM = 1000000;
     private static final int AIR_PART = 20, THICK_PART = 10, SUNK_PART = 50;
     private static final int MOST_MEANS = 20, MOST_BOOM = 9, MOST_RATE = 500, MOST_STORE = 5000;
     private static final int MOST_PEOPLE = 50, LITRES_EACH = 10, MOST_WORK = 8, REST_HOURS = 12;
@@ -549,15 +551,12 @@ public final class Slickboom {
             return all;
         }
 
+        /** Leaves out what an ahead never answers, nor decides where a litre goes. */
         void becomeLike(Cells other) {
             System.arraycopy(other.kind, 0, kind, 0, CELLS);
-            System.arraycopy(other.depth, 0, depth, 0, CELLS);
             System.arraycopy(other.fresh, 0, fresh, 0, CELLS);
             System.arraycopy(other.thick, 0, thick, 0, CELLS);
             System.arraycopy(other.stranded, 0, stranded, 0, CELLS);
-            System.arraycopy(other.birds, 0, birds, 0, CELLS);
-            System.arraycopy(other.oiled, 0, oiled, 0, CELLS);
-            System.arraycopy(other.signatures, 0, signatures, 0, CELLS);
         }
     }
 
@@ -578,7 +577,6 @@ public final class Slickboom {
             int ship = count;
             cell[ship] = newCell;
             litres[ship] = newLitres;
-            rate[ship] = 0;
             count++;
             return ship;
         }
@@ -711,7 +709,7 @@ public final class Slickboom {
             return all;
         }
 
-        /** Leaves out what only TEAMS have: no HOUR that passes reads it. */
+        /** Leaves out what only TEAMS have: no HOUR reads it. */
         void becomeLike(Means other) {
             count = other.count;
             System.arraycopy(other.sort, 0, sort, 0, MOST_MEANS);
@@ -743,16 +741,6 @@ public final class Slickboom {
             }
             leaked += litres;
         }
-
-        void becomeLike(Books other) {
-            leaked = other.leaked;
-            firstLeak = other.firstLeak;
-            air = other.air;
-            sunk = other.sunk;
-            out = other.out;
-            deep = other.deep;
-            burnt = other.burnt;
-        }
     }
 
     /** All that HOURS change, and how they do it. */
@@ -778,11 +766,11 @@ public final class Slickboom {
             thickGoes = new int[CELLS];
         }
 
+        /** Leaves out the books: those of a trial are kept, but never read. */
         void becomeLike(Bay other) {
             cells.becomeLike(other.cells);
             ships.becomeLike(other.ships);
             means.becomeLike(other.means);
-            books.becomeLike(other.books);
             hour = other.hour;
             windWay = other.windWay;
             windStrength = other.windStrength;
@@ -865,7 +853,7 @@ public final class Slickboom {
         /** Room in the CELL to which the WIND goes; only a SHORE has a bound. */
         int roomBehind(int cell) {
             int to = Cells.beside(cell, windWay);
-            return to == NONE || cells.isWater(to) ? Integer.MAX_VALUE : cells.roomOf(to);
+            return to == NONE || cells.isWater(to) ? ENDLESS_ROOM : cells.roomOf(to);
         }
 
         private void letGo(int cell, int to) {

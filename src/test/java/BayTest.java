@@ -176,6 +176,11 @@ public final class BayTest {
         Check.noState("7: one litre too much", () -> x.pump(0, 1, 99501));
         Check.is("7: the most", x.pump(0, 1, 99500), 100000);
         Check.is("7: is left then", x.shipHas(0), 500);
+        Slickboom y = new Slickboom();
+        y.ship(0, 700);
+        y.ship(23, 0);
+        Check.is("7: all that it has", y.pump(0, 1, 700), 700);
+        Check.is("7: none is left", y.shipHas(0), 0);
     }
 
     private static void shipHas() {

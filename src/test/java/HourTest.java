@@ -220,6 +220,13 @@ public final class HourTest {
         y.pass(1);
         Check.is("9: one litre", y.at(0, 0), 1);
         Check.is("9: does not go", y.meanIs(0, 3), 0);
+        // one of 2 litres does, and breaks it
+        Slickboom one = withOil(0, 2000, 2);
+        one.boom(0, Slickboom.EAST, 1);
+        one.wind(Slickboom.EAST, 5);
+        one.pass(1);
+        Check.is("9: one litre goes", one.at(1, 0), 1);
+        Check.is("9: one litre breaks", one.meanIs(0, 3), 1);
         // THICK oil alone breaks it, too: 300 FRESH are skimmed, 33 THICK stay
         Slickboom z = withOil(0, 8000, 50);
         z.skimmer(0, 300, 300);

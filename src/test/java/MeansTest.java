@@ -124,6 +124,13 @@ public final class MeansTest {
         Check.noRange("13: range ahead of 20", () -> x.team(0, true));
         Check.is("18: the last one", x.meanIs(19, 0), Slickboom.SKIMMER);
         Check.noNumber("18: beyond it", () -> x.meanIs(20, 0));
+        Check.is("2: a CELL without a SKIMMER among 20 means", x.shore(22, 1), 0);
+        Check.noState("2: one with SKIMMERS", () -> x.shore(0, 1));
+        x.ship(1, 5000);
+        x.hole(0, 10);
+        x.wind(0, 9);
+        Check.is("9: 20 means", x.pass(3), 3);
+        Check.is("31: 20 means", x.nextAnew(1), x.ahead(1, 1));
     }
 
     private static void move() {
@@ -364,10 +371,18 @@ public final class MeansTest {
         against("a MARSH beside, no leak", y, 14, use, new int[] {2, 5, 2});
         against("a MARSH beside, WEST", y, 21, use, new int[] {2, 5, 2});
         against("a MARSH beside, EAST", y, 19, use, new int[] {2, 5, 2});
+        against("a MARSH NORTH", fromNorth(), 20, use, new int[] {2, 5, 2});
         against("a MARSH across", y, 13, use, new int[] {2, 2, 1});
         against("SAND beside", y, 9, use, new int[] {2, 2, 1});
         against("ROCK beside", y, 1, use, new int[] {2, 2, 1});
         against("the end of a ROW", y, 5, use, new int[] {2, 2, 1});
+    }
+
+    private static Slickboom fromNorth() {
+        Slickboom x = new Slickboom();
+        x.shore(14, Slickboom.MARSH);
+        x.wind(0, 2);
+        return x;
     }
 
     private static void whyBurning() {
@@ -440,6 +455,14 @@ public final class MeansTest {
         Check.is("20: no litre leaked", y.why(14, Slickboom.DISPERSING, 0), 2);
         y.pass(1);
         Check.is("20: now one did", y.why(13, Slickboom.DISPERSING, 0), 4);
+        // one litre is a leak
+        Slickboom one = new Slickboom();
+        one.ship(14, 2000);
+        one.hole(0, 1);
+        one.wind(0, 2);
+        one.pass(1);
+        Check.is("20: one litre leaked", one.sum(1), 1);
+        Check.is("20: that is a leak", one.why(14, Slickboom.DISPERSING, 2), 0);
         // an ahead leaks nothing
         Slickboom z = new Slickboom();
         z.ship(14, 100000);

@@ -107,36 +107,34 @@ public final class ShoresTest {
     }
 
     private static void signByStrandedOil() {
-        int[] kinds = {Slickboom.ROCK, Slickboom.SAND, Slickboom.MARSH};
-        int[] most = {10, 25, 50};
-        for (int i = 0; i < 3; i++) {
-            Slickboom x = withStranded(kinds[i]);
-            x.team(50, true);
-            x.team(most[i] == 25 ? 47 : most[i] == 10 ? 18 : 44, true);
-            Check.noState("23: full", () -> x.sign(8, 0));
-            int left = most[i] == 10 ? 20 : most[i] == 25 ? 30 : 60;
-            if (most[i] == 50) {
-                x.clean(0, 8);
-            }
-            x.clean(1, 8);
-            Check.is("23: is left", x.at(8, 2), left);
-            Check.noState("23: too much", () -> x.sign(8, 0));
+        // what leaks by the WIND 9, how many litres strand of it then, the most that can be signed
+        int[] kinds = {Slickboom.ROCK, Slickboom.ROCK, Slickboom.SAND, Slickboom.SAND, Slickboom.MARSH, Slickboom.MARSH};
+        int[] rates = {12, 13, 30, 31, 59, 61};
+        int[] stranded = {9, 10, 25, 26, 50, 51};
+        boolean[] signs = {true, true, true, false, true, false};
+        for (int i = 0; i < 6; i++) {
+            Slickboom x = new Slickboom();
+            x.shore(8, kinds[i]);
+            x.ship(7, 2000);
+            x.hole(0, rates[i]);
+            x.wind(Slickboom.EAST, 9);
             x.pass(1);
-            x.team(1, true);
-            x.clean(2, 8);
-            Check.is("23: is left then", x.at(8, 2), left - 10);
-            Check.is("23: not too much", x.sign(8, 0), false);
+            Check.is("23: STRANDED by " + rates[i], x.at(8, 2), stranded[i]);
+            if (signs[i]) {
+                Check.is("23: a twentieth", x.sign(8, 0), false);
+            } else {
+                Check.noState("23: more than a twentieth", () -> x.sign(8, 0));
+                x.team(1, true);
+                x.clean(0, 8);
+                Check.is("23: cleaned", x.sign(8, 0), false);
+            }
         }
-        // 25 is a twentieth of 500, 26 is more: 463 of 500 and 37 by hand
-        Slickboom y = new Slickboom();
-        y.shore(8, Slickboom.SAND);
-        y.ship(7, 2000);
-        y.hole(0, 41);
-        y.wind(Slickboom.EAST, 7);
-        y.pass(1);
-        // 41: 2 AIR, 3 thicken: 36 and 3, of which 25 and 2 go
-        Check.is("23: 27 of 500", y.at(8, 2), 27);
-        Check.noState("23: 27 are too much", () -> y.sign(8, 0));
+        Slickboom full = withStranded(Slickboom.ROCK);
+        Check.noState("23: full", () -> full.sign(8, 0));
+        full.team(19, true);
+        full.clean(0, 8);
+        Check.is("23: 10 of 200 are left", full.at(8, 2), 10);
+        Check.is("23: just a twentieth of 200", full.sign(8, 2), false);
     }
 
     private static void site() {
