@@ -1,9 +1,5 @@
 /** Counts answers that are not due, and ends a test with exit code 1 if there was one. */
 final class Check {
-    interface Call {
-        void run();
-    }
-
     private static int checked = 0;
     private static int wrong = 0;
 
@@ -29,31 +25,6 @@ final class Check {
         if (!got.equals(want)) {
             tell(what + ": answered " + got + ", due is " + want);
         }
-    }
-
-    /** No such number. */
-    static void noNumber(String what, Call call) {
-        fails(what, IndexOutOfBoundsException.class, call);
-    }
-
-    /** An argument out of range. */
-    static void noRange(String what, Call call) {
-        fails(what, IllegalArgumentException.class, call);
-    }
-
-    /** Not now. */
-    static void noState(String what, Call call) {
-        fails(what, IllegalStateException.class, call);
-    }
-
-    private static void fails(String what, Class<? extends RuntimeException> due, Call call) {
-        String got = "nothing";
-        try {
-            call.run();
-        } catch (RuntimeException e) {
-            got = e.getClass().getName();
-        }
-        is(what + " throws", got, due.getName());
     }
 
     private static void tell(String text) {
