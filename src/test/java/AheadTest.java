@@ -264,6 +264,39 @@ public final class AheadTest {
         Check.is("31: full again, and a fifth less", x.nextAnew(8), 160);
         x.pass(1);
         Check.is("31: not at the HOUR 7: of 40 go 36", x.nextAnew(2), 4);
+        // a SKIMMER there takes half of its rate of it, for it is THICK: 20 of 40
+        Slickboom skimmed = Bays.blown(Slickboom.ROCK, 200);
+        skimmed.skimmer(2, 40, 5000);
+        skimmed.pass(4);
+        Check.is("31: THICK oil for a SKIMMER", skimmed.nextAnew(2), 20);
+        Check.is("31: THICK oil for a SKIMMER, ahead", skimmed.ahead(2, 1), 20);
+        // to the CELL 0 from the EAST or the SOUTH; to the SOUTH, if all else are SHORES
+        for (int shore = 1; shore <= 6; shore += 5) {
+            Slickboom z = new Slickboom();
+            z.shore(shore, Slickboom.ROCK);
+            Bays.leak(z, 0, 9000);
+            z.wind(shore == 1 ? Slickboom.EAST : Slickboom.SOUTH, 9);
+            z.pass(1);
+            Bays.stop(z);
+            z.wind(Slickboom.EAST, 0);
+            z.pass(4);
+            Check.is("31: it gives to the CELL 0", z.nextAnew(shore), 160);
+            Check.is("31: the CELL 0 gets it", z.nextAnew(0), z.ahead(0, 1));
+        }
+        Slickboom south = new Slickboom();
+        south.shore(8, Slickboom.ROCK);
+        south.shore(2, Slickboom.MARSH);
+        south.shore(7, Slickboom.MARSH);
+        south.shore(9, Slickboom.MARSH);
+        Bays.leak(south, 14, 230);
+        south.wind(Slickboom.NORTH, 9);
+        south.pass(1);
+        Bays.stop(south);
+        Check.is("31: from the SOUTH", south.at(8, 2), 196);
+        south.wind(Slickboom.EAST, 9);
+        south.pass(4);
+        Check.is("31: little is left there", oil(south, 14), 2);
+        Check.is("31: it gives to the SOUTH", south.nextAnew(14), 2 + 39);
         // more than one SHORE gives to one CELL
         Slickboom y = new Slickboom();
         y.shore(9, Slickboom.ROCK);
@@ -420,6 +453,16 @@ public final class AheadTest {
         Check.is("32: in both stores", x.sum(8), 80);
         x.carry(1);
         Check.is("32: less what was carried away", x.sum(8), 50);
+        // the first and the last of 20 means
+        Slickboom y = new Slickboom();
+        Bays.leak(y, 14, 350);
+        y.skimmer(14, 7, 7);
+        for (int i = 1; i < 19; i++) {
+            y.team(1, true);
+        }
+        y.skimmer(14, 4, 4);
+        y.pass(1);
+        Check.is("32: in the stores of the first and the last one", y.sum(8), 11);
     }
 
     /** Promise 32: "9 DEEP; 10 BURNT" */
@@ -453,7 +496,10 @@ public final class AheadTest {
         Check.is("32: delivered, too", x.sum(11), 23);
     }
 
-    /** Promise 32: "1 all litres that ever leaked; 2 those in SHIPS; 3 those that float; 4 AIR; 5 SUNK; 6 OUT; 7 STRANDED; 8 in stores; 9 DEEP; 10 BURNT; 11 LIQUID and SOLID waste, delivered or not" */
+    /**
+     * Promise 32: "1 all litres that ever leaked; 2 those in SHIPS; 3 those that float; 4 AIR; 5 SUNK; 6 OUT; 7
+     * STRANDED; 8 in stores; 9 DEEP; 10 BURNT; 11 LIQUID and SOLID waste, delivered or not"
+     */
     private static void sumsTogether() {
         for (int later = 0; later < 60; later++) {
             Slickboom x = busyLater(later).get();

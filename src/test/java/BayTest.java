@@ -60,7 +60,10 @@ public final class BayTest {
         Check.is("1: each object has HOURS of its own", new Slickboom().pass(1) + x.sum(0), 1);
     }
 
-    /** Promise 1: "The bay has the CELLS 0 to 23; the CELL is 6 times its ROW, 0 to 3, and its COLUMN, 0 to 5, together." */
+    /**
+     * Promise 1: "The bay has the CELLS 0 to 23; the CELL is 6 times its ROW, 0 to 3, and its COLUMN, 0 to 5,
+     * together."
+     */
     private static void twentyFourCells() {
         Slickboom x = new Slickboom();
         for (int cell = 0; cell < 24; cell++) {
@@ -79,7 +82,10 @@ public final class BayTest {
         }
     }
 
-    /** Promise 1: "Each is WATER with a depth, 20 at first", "The WIND has a way, EAST at first, and a strength, 0 to 9, 0 at first.", "A SHORE has birds, 0 at first; some are OILED.", "both 0 at first." */
+    /**
+     * Promise 1: "Each is WATER with a depth, 20 at first", "The WIND has a way, EAST at first, and a strength, 0 to
+     * 9, 0 at first.", "A SHORE has birds, 0 at first; some are OILED.", "both 0 at first."
+     */
     private static void firstNumbers() {
         Slickboom x = new Slickboom();
         for (int cell = 0; cell < 24; cell++) {
@@ -223,12 +229,30 @@ public final class BayTest {
         Refused.state("2: a SKIMMER is there", withMeans, x -> x.shore(8, Slickboom.SAND));
         Refused.state("2: to WATER, a SKIMMER is there", withMeans, x -> x.shore(8, Slickboom.WATER));
         Refused.state("2: a SKIMMER was sent there", withMeans, x -> x.shore(20, Slickboom.SAND));
+        Refused.state("2: the first mean is there", () -> {
+            Slickboom x = new Slickboom();
+            x.skimmer(0, 1, 1);
+            return x;
+        }, x -> x.shore(0, Slickboom.SAND));
+        Refused.state("2: the last of 20 means is there", () -> twentyMeans(Slickboom.SKIMMER), x -> x.shore(9, 1));
+        Check.is("2: none of 20 means is", twentyMeans(Slickboom.TEAM).shore(9, Slickboom.ROCK), Slickboom.WATER);
+        Check.is("2: nor there", twentyMeans(Slickboom.SKIMMER).shore(10, Slickboom.ROCK), Slickboom.WATER);
         Slickboom x = withMeans.get();
         Check.is("2: from here it was sent away", x.shore(9, Slickboom.SAND), 0);
         Check.is("2: a BOOM is no matter", x.shore(6, Slickboom.SAND), 0);
         Check.is("2: nor on its other side", x.shore(7, Slickboom.SAND), 0);
         Check.is("2: nor a TEAM", x.shore(0, Slickboom.SAND), 0);
         Check.is("2: the CELL 1 has no SHIP 0", x.shore(1, Slickboom.SAND), 0);
+    }
+
+    /** The last of them is in the CELL 9, if it is a SKIMMER. */
+    private static Slickboom twentyMeans(int last) {
+        Slickboom x = new Slickboom();
+        for (int i = 0; i < 19; i++) {
+            x.skimmer(0, 1, 1);
+        }
+        Check.is("2: the last of 20", last == Slickboom.SKIMMER ? x.skimmer(9, 1, 1) : x.team(1, true), 19);
+        return x;
     }
 
     // ---- depth
@@ -324,7 +348,10 @@ public final class BayTest {
 
     // ---- ship
 
-    /** Promise 5: "Lets a SHIP be in a CELL.", "Returns its number.", "SHIPS are numbered from 0", "each in a CELL that is WATER, with some litres of oil, and a rate, 0 at first." */
+    /**
+     * Promise 5: "Lets a SHIP be in a CELL.", "Returns its number.", "SHIPS are numbered from 0", "each in a CELL
+     * that is WATER, with some litres of oil, and a rate, 0 at first."
+     */
     private static void shipIsThere() {
         Slickboom x = new Slickboom();
         Check.is("5: the first", x.ship(3, 5000), 0);
@@ -453,7 +480,10 @@ public final class BayTest {
         Check.is("7: nothing leaked", x.sum(1), 0);
     }
 
-    /** Promise 7: "ship: a SHIP", "other: another one", "Throws IndexOutOfBoundsException if there is no such SHIP, of either" */
+    /**
+     * Promise 7: "ship: a SHIP", "other: another one", "Throws IndexOutOfBoundsException if there is no such SHIP, of
+     * either"
+     */
     private static void pumpOfShips() {
         Supplier<Slickboom> four = ships(10, 20, 30, 40);
         Check.is("7: from the first into the last", four.get().pump(0, 3, 10), 50);
@@ -533,7 +563,10 @@ public final class BayTest {
 
     // ---- at
 
-    /** Promise 10: "Returns something of a CELL.", "what: 0 FRESH, 1 THICK, 2 STRANDED litres", "Returns the number.", "FRESH and THICK oil floats on WATER; a SHORE has STRANDED oil." */
+    /**
+     * Promise 10: "Returns something of a CELL.", "what: 0 FRESH, 1 THICK, 2 STRANDED litres", "Returns the number.",
+     * "FRESH and THICK oil floats on WATER; a SHORE has STRANDED oil."
+     */
     private static void atOil() {
         // 350 leak: 17 AIR, 33 thicken: 300 and 33, of which 180 and 19 go to the SHORE 8
         Slickboom x = new Slickboom();

@@ -5,6 +5,13 @@ final class Bays {
     private Bays() {
     }
 
+    /** The CELL to which a way leads, or -1 where it leads out of the bay. */
+    static int beside(int cell, int way) {
+        int row = cell / 6 + (way == Slickboom.SOUTH ? 1 : way == Slickboom.NORTH ? -1 : 0);
+        int column = cell % 6 + (way == Slickboom.EAST ? 1 : way == Slickboom.WEST ? -1 : 0);
+        return row < 0 || row > 3 || column < 0 || column > 5 ? -1 : 6 * row + column;
+    }
+
     /** SHIPS 0 and 1 in a CELL: at the HOUR 1 just so many litres leak from them, up to 9899. */
     static void leak(Slickboom x, int cell, int litres) {
         // the TIDE is 1 then: a LEVEL of 100 is 99 above it, one of 2 is 1 above it

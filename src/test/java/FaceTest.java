@@ -55,7 +55,11 @@ public final class FaceTest {
         Check.end();
     }
 
-    /** Terms: "NONE = -1: None.", "WATER = 0, ROCK = 1, SAND = 2, MARSH = 3: What a CELL is.", "EAST = 0, WEST = 1, SOUTH = 2, NORTH = 3: Ways.", "BOOM = 0, SKIMMER = 1, TEAM = 2: What means are.", "DISPERSING = 0, BURNING = 1: What may be against rules.", "LIQUID = 0, SOLID = 1: Waste." */
+    /**
+     * Terms: "NONE = -1: None.", "WATER = 0, ROCK = 1, SAND = 2, MARSH = 3: What a CELL is.", "EAST = 0, WEST = 1,
+     * SOUTH = 2, NORTH = 3: Ways.", "BOOM = 0, SKIMMER = 1, TEAM = 2: What means are.", "DISPERSING = 0, BURNING = 1:
+     * What may be against rules.", "LIQUID = 0, SOLID = 1: Waste."
+     */
     private static void constants() {
         Check.is("NONE", Slickboom.NONE, -1);
         Check.is("WATER", Slickboom.WATER, 0);

@@ -7,7 +7,9 @@ import java.nio.file.Path;
 import java.util.regex.Matcher;
 import java.util.regex.Pattern;
 
-/** The rules of ../shared/LANGUAGE.md that the text and the classes of Slickboom show; run it in the project's folder. */
+/**
+ * The rules of ../shared/LANGUAGE.md that the text and the classes of Slickboom show; run it in the project's folder.
+ */
 public final class LanguageTest {
     private static final String E = "(IllegalState|IllegalArgument|IndexOutOfBounds|Arithmetic|UnsupportedOperation"
             + "|NoSuchElement|Runtime)Exception";

@@ -9,6 +9,7 @@ public final class MeansTest {
         boomByAWay();
         boomOfAStrength();
         boomOnTheSameBorder();
+        boomOnEachBorder();
         boomOnAnotherBorder();
         boomWhereOneIsBroken();
         skimmerIsSent();
@@ -61,7 +62,11 @@ public final class MeansTest {
         };
     }
 
-    /** Promise 11: "or there are 20 means", "Returns its number.", "Means are numbered from 0, up to 20: BOOMS, SKIMMERS and TEAMS." Promise 12: "or there are 20 means", "Returns its number." Promise 13: "Throws IllegalStateException if there are 20 means", "Returns its number." */
+    /**
+     * Promise 11: "or there are 20 means", "Returns its number.", "Means are numbered from 0, up to 20: BOOMS,
+     * SKIMMERS and TEAMS." Promise 12: "or there are 20 means", "Returns its number." Promise 13: "Throws
+     * IllegalStateException if there are 20 means", "Returns its number."
+     */
     private static void twentyMeans() {
         Check.is("11: the first", means(0).get().boom(22, Slickboom.NORTH, 5), 0);
         Check.is("12: the first", means(0).get().skimmer(22, 5, 5), 0);
@@ -111,7 +116,10 @@ public final class MeansTest {
         Refused.numbers("11: cell", 24, Bays::busy, (y, cell) -> y.boom(cell, Slickboom.NORTH, 1));
     }
 
-    /** Promise 11: "way: EAST to NORTH, also out of the bay", "Throws IllegalArgumentException if way or strength is out of range" */
+    /**
+     * Promise 11: "way: EAST to NORTH, also out of the bay", "Throws IllegalArgumentException if way or strength is
+     * out of range"
+     */
     private static void boomByAWay() {
         int[] ends = {5, 0, 18, 0};
         for (int way = Slickboom.EAST; way <= Slickboom.NORTH; way++) {
@@ -133,7 +141,10 @@ public final class MeansTest {
         Refused.ranges("11: strength", 1, 9, Bays::busy, (y, strength) -> y.boom(2, Slickboom.NORTH, strength));
     }
 
-    /** Promise 11: "Throws IllegalStateException if there is one on that border that is not BROKEN", "A BOOM lies on the border of a CELL to which a way leads, which is the border of the other CELL, too, back to the first one" */
+    /**
+     * Promise 11: "Throws IllegalStateException if there is one on that border that is not BROKEN", "A BOOM lies on
+     * the border of a CELL to which a way leads, which is the border of the other CELL, too, back to the first one"
+     */
     private static void boomOnTheSameBorder() {
         int[] others = {9, 7, 14, 2};
         int[] back = {Slickboom.WEST, Slickboom.EAST, Slickboom.NORTH, Slickboom.SOUTH};
@@ -152,6 +163,38 @@ public final class MeansTest {
                 x.boom(ends[way], way, 5);
                 return x;
             }, x -> x.boom(ends[way], way, 5));
+        }
+    }
+
+    /** Promise 11: "which is the border of the other CELL, too, back to the first one" */
+    private static void boomOnEachBorder() {
+        int[] steps = {1, -1, 6, -6};
+        int[] back = {Slickboom.WEST, Slickboom.EAST, Slickboom.NORTH, Slickboom.SOUTH};
+        for (int i = 0; i < 24 * 4; i++) {
+            int cell = i / 4;
+            int way = i % 4;
+            int column = cell % 6 + (way == Slickboom.EAST ? 1 : way == Slickboom.WEST ? -1 : 0);
+            int other = cell + steps[way];
+            boolean leadsOut = column < 0 || column > 5 || other < 0 || other > 23;
+            // all borders but that one: some of them have two names
+            int same = 0;
+            for (int j = 0; j < 24 * 4; j++) {
+                Slickboom x = new Slickboom();
+                x.boom(cell, way, 5);
+                boolean isSame = j == i || !leadsOut && j / 4 == other && j % 4 == back[way];
+                Check.is("11: by " + way + " of " + cell + ", then by " + j % 4 + " of " + j / 4,
+                        canLay(x, j / 4, j % 4), !isSame);
+                same += isSame ? 1 : 0;
+            }
+            Check.is("11: names of the border by " + way + " of " + cell, same, leadsOut ? 1 : 2);
+        }
+    }
+
+    private static boolean canLay(Slickboom x, int cell, int way) {
+        try {
+            return x.boom(cell, way, 5) == 1;
+        } catch (IllegalStateException e) {
+            return false;
         }
     }
 
@@ -348,7 +391,10 @@ public final class MeansTest {
 
     // ---- carry
 
-    /** Promise 15: "Carries away what a SKIMMER has.", "Returns how many litres.", "to carry takes what is in the store away, as LIQUID waste." */
+    /**
+     * Promise 15: "Carries away what a SKIMMER has.", "Returns how many litres.", "to carry takes what is in the
+     * store away, as LIQUID waste."
+     */
     private static void carryTakesAway() {
         Slickboom x = new Slickboom();
         x.hole(x.ship(14, 8000), 50);
@@ -427,7 +473,10 @@ public final class MeansTest {
 
     // ---- clean
 
-    /** Promise 17: "Lets a TEAM clean a SHORE.", "Returns how many litres it takes, perhaps 0.", "10 litres of STRANDED oil for each of its people, or all, if there are fewer, are SOLID waste then." */
+    /**
+     * Promise 17: "Lets a TEAM clean a SHORE.", "Returns how many litres it takes, perhaps 0.", "10 litres of
+     * STRANDED oil for each of its people, or all, if there are fewer, are SOLID waste then."
+     */
     private static void cleanByPeople() {
         for (int people = 1; people <= 20; people += 19) {
             int most = 10 * people;

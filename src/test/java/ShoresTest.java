@@ -122,7 +122,10 @@ public final class ShoresTest {
         return Bays.blown(Slickboom.SAND, 500, y -> y.birds(8, 10));
     }
 
-    /** Promise 22: "Washes OILED birds, as many as told", "Returns how many.", "To wash OILED ones makes them birds that are not." */
+    /**
+     * Promise 22: "Washes OILED birds, as many as told", "Returns how many.", "To wash OILED ones makes them birds
+     * that are not."
+     */
     private static void washesAsManyAsTold() {
         Slickboom x = withOiled();
         Check.is("22: one", x.wash(8, 1), 1);
@@ -227,7 +230,10 @@ public final class ShoresTest {
         Refused.numbers("23: cell", 24, Bays::busy, (y, cell) -> y.sign(cell, 0));
     }
 
-    /** Promise 23: "who: 0 to 2", "Throws IllegalArgumentException if who is out of range", "Three people, 0 to 2, can sign a SHORE" */
+    /**
+     * Promise 23: "who: 0 to 2", "Throws IllegalArgumentException if who is out of range", "Three people, 0 to 2, can
+     * sign a SHORE"
+     */
     private static void signByThree() {
         for (int who = 0; who <= 2; who++) {
             Slickboom x = new Slickboom();
@@ -246,7 +252,10 @@ public final class ShoresTest {
         }
     }
 
-    /** Promise 23: "has too much STRANDED oil", "can sign a SHORE that has no more STRANDED oil than a twentieth of what it holds" */
+    /**
+     * Promise 23: "has too much STRANDED oil", "can sign a SHORE that has no more STRANDED oil than a twentieth of
+     * what it holds"
+     */
     private static void signWithStrandedOil() {
         int[] twentieth = {0, 10, 25, 50};
         int[] holds = {0, 200, 500, 1000};
@@ -302,7 +311,10 @@ public final class ShoresTest {
         return x;
     }
 
-    /** Promise 24: "Tells a SITE.", "Returns its number.", "SITES are numbered from 0", "with room for LIQUID and for SOLID waste." */
+    /**
+     * Promise 24: "Tells a SITE.", "Returns its number.", "SITES are numbered from 0", "with room for LIQUID and for
+     * SOLID waste."
+     */
     private static void siteIsTold() {
         Slickboom x = withWaste();
         Check.is("24: the third", x.site(7, 8), 2);
@@ -313,7 +325,10 @@ public final class ShoresTest {
         Check.is("24: the first number", new Slickboom().site(1, 1), 0);
     }
 
-    /** Promise 24: "liquid: 0 to 100000", "solid: 0 to 100000", "Throws IllegalArgumentException if an argument is out of range" */
+    /**
+     * Promise 24: "liquid: 0 to 100000", "solid: 0 to 100000", "Throws IllegalArgumentException if an argument is out
+     * of range"
+     */
     private static void siteWithRoom() {
         Slickboom x = Bays.blown(Slickboom.ROCK, 20);
         x.team(1, true);
@@ -344,7 +359,10 @@ public final class ShoresTest {
         Refused.state("24: there are 3 without room", () -> withRoomFor(0, 0), x -> x.site(0, 0));
     }
 
-    /** Promise 25: "Delivers waste to a SITE.", "Returns the room for that sort then.", "To deliver waste takes it, and room." */
+    /**
+     * Promise 25: "Delivers waste to a SITE.", "Returns the room for that sort then.", "To deliver waste takes it,
+     * and room."
+     */
     private static void deliverTakesWasteAndRoom() {
         Slickboom x = withWaste();
         Check.is("25: room for LIQUID then", x.deliver(0, Slickboom.LIQUID, 100), 200);
@@ -504,7 +522,10 @@ public final class ShoresTest {
         Refused.state("27: there are 20", Bays::full, y -> y.claim(1));
     }
 
-    /** Promise 28: "Tells the LAYERS.", "Returns what both were, together.", "There are two LAYERS: what the owner pays at most, and the fund" */
+    /**
+     * Promise 28: "Tells the LAYERS.", "Returns what both were, together.", "There are two LAYERS: what the owner
+     * pays at most, and the fund"
+     */
     private static void layersAreTold() {
         Slickboom x = claims(1000);
         Check.is("28: 0 at first", x.layers(300, 40), 0);
@@ -516,7 +537,10 @@ public final class ShoresTest {
         Check.is("28: none", x.due(0, 0) + x.due(0, 1), 0);
     }
 
-    /** Promise 28: "owner: 0 to 10000000", "fund: 0 to 10000000", "Throws IllegalArgumentException if an argument is out of range" */
+    /**
+     * Promise 28: "owner: 0 to 10000000", "fund: 0 to 10000000", "Throws IllegalArgumentException if an argument is
+     * out of range"
+     */
     private static void layersInRange() {
         Slickboom x = new Slickboom();
         x.layers(10000000, 0);
@@ -533,7 +557,10 @@ public final class ShoresTest {
         Check.is("29: " + what + ", from the fund", x.due(claim, 1), fund);
     }
 
-    /** Promise 29: "Returns what a CLAIM gets.", "Returns the cents.", "What all get is the lesser one of both LAYERS, together, and all CLAIMS, together." */
+    /**
+     * Promise 29: "Returns what a CLAIM gets.", "Returns the cents.", "What all get is the lesser one of both LAYERS,
+     * together, and all CLAIMS, together."
+     */
     private static void dueOfTheLesserOne() {
         // 1000 in all: both LAYERS are one cent less than that, the same, one cent more
         for (int both = 999; both <= 1001; both++) {
@@ -579,7 +606,10 @@ public final class ShoresTest {
         gets("199.5, the one more", x, 3, 0, 199);
     }
 
-    /** Promise 29: "Of what it gets the owner pays that times the lesser one of the owner's LAYER and what all get, by what all get", "what: 0 from the owner" */
+    /**
+     * Promise 29: "Of what it gets the owner pays that times the lesser one of the owner's LAYER and what all get, by
+     * what all get", "what: 0 from the owner"
+     */
     private static void dueFromTheOwner() {
         Slickboom x = claims(600, 300, 101);
         x.layers(500, 200);
@@ -643,7 +673,10 @@ public final class ShoresTest {
         }
     }
 
-    /** Promise 29: "what: 0 from the owner; 1 from the fund", "Throws IllegalArgumentException if what is out of range" */
+    /**
+     * Promise 29: "what: 0 from the owner; 1 from the fund", "Throws IllegalArgumentException if what is out of
+     * range"
+     */
     private static void dueInRange() {
         Slickboom x = Bays.busy();
         // 500 of 801, of that 400 of 500

@@ -51,7 +51,10 @@ public final class UsesTest {
 
     // ---- use
 
-    /** Promise 19: "Disperses or burns.", "Returns how many litres become DEEP, or BURNT.", "DISPERSING makes all FRESH oil of a CELL DEEP" */
+    /**
+     * Promise 19: "Disperses or burns.", "Returns how many litres become DEEP, or BURNT.", "DISPERSING makes all
+     * FRESH oil of a CELL DEEP"
+     */
     private static void disperses() {
         Slickboom x = ready();
         Check.is("19: all FRESH oil", x.use(14, DISPERSING), 300);
@@ -203,7 +206,10 @@ public final class UsesTest {
 
     // ---- why
 
-    /** Promise 20: "Returns what is against it now.", "what: 0 the first rule; 1 the last one; 2 how many are against it" */
+    /**
+     * Promise 20: "Returns what is against it now.", "what: 0 the first rule; 1 the last one; 2 how many are against
+     * it"
+     */
     private static void whyByNumbers() {
         Slickboom x = ready();
         x.depth(14, 5);
@@ -306,7 +312,10 @@ public final class UsesTest {
         return x;
     }
 
-    /** Promise 20: "2: the first leak was more than 72 HOURS ago, or none was; 3: there is more THICK oil than FRESH; 4: the strength of the WIND is below 2" */
+    /**
+     * Promise 20: "2: the first leak was more than 72 HOURS ago, or none was; 3: there is more THICK oil than FRESH;
+     * 4: the strength of the WIND is below 2"
+     */
     private static void leakMoreThan72HoursAgo() {
         for (int hour : new int[] {1, 2, 12, 30}) {
             for (int later : new int[] {0, 1, 24, 25, 71, 72}) {
