@@ -5,7 +5,11 @@ public final class BayTest {
     public static void main(String[] args) {
         newObject();
         twentyFourCells();
-        firstNumbers();
+        firstNumbersOfCells();
+        firstBirds();
+        firstWind();
+        firstLayers();
+        noneIsThereYet();
         shoreMakes();
         shoreIsAnswered();
         shoreOfACell();
@@ -82,28 +86,62 @@ public final class BayTest {
         }
     }
 
-    /**
-     * Promise 1: "Each is WATER with a depth, 20 at first", "The WIND has a way, EAST at first, and a strength, 0 to
-     * 9, 0 at first.", "A SHORE has birds, 0 at first; some are OILED.", "both 0 at first."
-     */
-    private static void firstNumbers() {
+    /** Promise 1: "Each is WATER with a depth, 20 at first" */
+    private static void firstNumbersOfCells() {
         Slickboom x = new Slickboom();
         for (int cell = 0; cell < 24; cell++) {
             for (int what = 0; what <= 8; what++) {
                 Check.is("1: at(" + cell + ", " + what + ")", x.at(cell, what), what == 4 ? 20 : 0);
             }
         }
-        Check.is("1: EAST, strength 0", x.wind(Slickboom.SOUTH, 3), 0);
-        Check.is("1: both LAYERS are 0", x.layers(1, 2), 0);
-        Check.is("1: no LIQUID waste", x.waste(Slickboom.LIQUID), 0);
-        Check.is("1: no SOLID waste", x.waste(Slickboom.SOLID), 0);
         for (int what = 0; what <= 11; what++) {
             Check.is("1: sum " + what, x.sum(what), 0);
         }
+        Check.is("1: no LIQUID waste", x.waste(Slickboom.LIQUID), 0);
+        Check.is("1: no SOLID waste", x.waste(Slickboom.SOLID), 0);
+    }
+
+    /** Promise 1: "A SHORE has birds, 0 at first; some are OILED." */
+    private static void firstBirds() {
+        for (int kind = Slickboom.ROCK; kind <= Slickboom.MARSH; kind++) {
+            Slickboom x = new Slickboom();
+            x.shore(4, kind);
+            Check.is("1: no birds", x.at(4, 5), 0);
+            Check.is("1: none is OILED", x.at(4, 6), 0);
+        }
+    }
+
+    /** Promise 1: "The WIND has a way, EAST at first, and a strength, 0 to 9, 0 at first." */
+    private static void firstWind() {
+        Check.is("1: EAST, strength 0", new Slickboom().wind(Slickboom.SOUTH, 3), 0);
+        Slickboom x = new Slickboom();
+        Bays.leak(x, 14, 350);
+        x.pass(1);
+        Check.is("1: nothing drifts", x.at(14, 0), 300);
+    }
+
+    /** Promise 1: "There are two LAYERS: what the owner pays at most, and the fund; both 0 at first." */
+    private static void firstLayers() {
+        Slickboom x = new Slickboom();
+        x.claim(100);
+        Check.is("1: the owner pays nothing", x.due(0, 0), 0);
+        Check.is("1: the fund pays nothing", x.due(0, 1), 0);
+        Check.is("1: both LAYERS are 0", x.layers(1, 2), 0);
+    }
+
+    /**
+     * Promise 1: "SHIPS are numbered from 0", "Means are numbered from 0", "SITES are numbered from 0",
+     * "CLAIMS are numbered from 0"
+     */
+    private static void noneIsThereYet() {
         Refused.numbers("1: no SHIP", 0, Slickboom::new, (y, ship) -> y.shipHas(ship));
         Refused.numbers("1: no mean", 0, Slickboom::new, (y, mean) -> y.meanIs(mean, 0));
         Refused.numbers("1: no SITE", 0, Slickboom::new, (y, site) -> y.deliver(site, Slickboom.LIQUID, 1));
         Refused.numbers("1: no CLAIM", 0, Slickboom::new, (y, claim) -> y.due(claim, 0));
+        Check.is("1: the first SHIP", new Slickboom().ship(5, 5), 0);
+        Check.is("1: the first mean", new Slickboom().team(5, true), 0);
+        Check.is("1: the first SITE", new Slickboom().site(5, 5), 0);
+        Check.is("1: the first CLAIM", new Slickboom().claim(5), 0);
     }
 
     // ---- shore

@@ -4,6 +4,9 @@ import java.util.function.Supplier;
 public final class MeansTest {
     public static void main(String[] args) {
         twentyMeans();
+        boomAmong20();
+        skimmerAmong20();
+        teamAmong20();
         boomIsLaid();
         boomOfACell();
         boomByAWay();
@@ -62,28 +65,26 @@ public final class MeansTest {
         };
     }
 
-    /**
-     * Promise 11: "or there are 20 means", "Returns its number.", "Means are numbered from 0, up to 20: BOOMS,
-     * SKIMMERS and TEAMS." Promise 12: "or there are 20 means", "Returns its number." Promise 13: "Throws
-     * IllegalStateException if there are 20 means", "Returns its number."
-     */
+    /** Promise 18: "Means are numbered from 0, up to 20: BOOMS, SKIMMERS and TEAMS." */
     private static void twentyMeans() {
-        Check.is("11: the first", means(0).get().boom(22, Slickboom.NORTH, 5), 0);
-        Check.is("12: the first", means(0).get().skimmer(22, 5, 5), 0);
-        Check.is("13: the first", means(0).get().team(5, false), 0);
-        Check.is("11: the last", means(19).get().boom(22, Slickboom.NORTH, 5), 19);
-        Check.is("12: the last", means(19).get().skimmer(22, 5, 5), 19);
-        Check.is("13: the last", means(19).get().team(5, false), 19);
-        Refused.state("11: there are 20", means(20), x -> x.boom(22, Slickboom.NORTH, 5));
-        Refused.state("12: there are 20", means(20), x -> x.skimmer(22, 5, 5));
-        Refused.state("13: there are 20", means(20), x -> x.team(5, false));
+        // one count for all sorts, and each HOUR and each question does with 20
         Slickboom x = means(20).get();
-        Check.is("18: the last one is", x.meanIs(19, 0), Slickboom.SKIMMER);
+        for (int mean = 0; mean < 20; mean++) {
+            int[] sorts = {Slickboom.TEAM, Slickboom.SKIMMER, Slickboom.BOOM};
+            Check.is("18: the sort of " + mean, x.meanIs(mean, 0), sorts[mean % 3]);
+        }
         Refused.numbers("18: a mean of 20,", 20, means(20), (y, mean) -> y.meanIs(mean, 0));
         Bays.leak(x, 0, 350);
         x.wind(Slickboom.EAST, 9);
         Check.is("9: 20 means", x.pass(3), 3);
         Check.is("31: 20 means", x.nextAnew(1), x.ahead(1, 1));
+    }
+
+    /** Promise 11: "or there are 20 means", "Returns its number." */
+    private static void boomAmong20() {
+        Check.is("11: the first", means(0).get().boom(22, Slickboom.NORTH, 5), 0);
+        Check.is("11: the last", means(19).get().boom(22, Slickboom.NORTH, 5), 19);
+        Refused.state("11: there are 20", means(20), x -> x.boom(22, Slickboom.NORTH, 5));
         // BROKEN ones are means still
         Refused.state("11: there are 20 with a BROKEN one", () -> {
             Slickboom y = withBrokenBoom();
@@ -92,6 +93,21 @@ public final class MeansTest {
             }
             return y;
         }, y -> y.boom(8, Slickboom.EAST, 1));
+    }
+
+    /** Promise 12: "or there are 20 means", "Returns its number." */
+    private static void skimmerAmong20() {
+        Check.is("12: the first", means(0).get().skimmer(22, 5, 5), 0);
+        Check.is("12: the last", means(19).get().skimmer(22, 5, 5), 19);
+        Refused.state("12: there are 20", means(20), x -> x.skimmer(22, 5, 5));
+    }
+
+    /** Promise 13: "Throws IllegalStateException if there are 20 means", "Returns its number." */
+    private static void teamAmong20() {
+        Check.is("13: the first", means(0).get().team(5, false), 0);
+        Check.is("13: the last", means(19).get().team(5, false), 19);
+        Refused.state("13: there are 20", means(20), x -> x.team(5, false));
+        Refused.state("13: there are 20, one that is taught", means(20), x -> x.team(5, true));
     }
 
     // ---- boom

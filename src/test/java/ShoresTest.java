@@ -21,7 +21,8 @@ public final class ShoresTest {
         signWithStrandedOil();
         signTwice();
         siteIsTold();
-        siteWithRoom();
+        siteWithLiquidRoom();
+        siteWithSolidRoom();
         threeSites();
         deliverTakesWasteAndRoom();
         deliverToASite();
@@ -36,7 +37,8 @@ public final class ShoresTest {
         claimOfCents();
         twentyClaims();
         layersAreTold();
-        layersInRange();
+        layersOfTheOwner();
+        layersOfTheFund();
         dueOfTheLesserOne();
         dueOfNothing();
         dueByAllClaims();
@@ -325,24 +327,17 @@ public final class ShoresTest {
         Check.is("24: the first number", new Slickboom().site(1, 1), 0);
     }
 
-    /**
-     * Promise 24: "liquid: 0 to 100000", "solid: 0 to 100000", "Throws IllegalArgumentException if an argument is out
-     * of range"
-     */
-    private static void siteWithRoom() {
-        Slickboom x = Bays.blown(Slickboom.ROCK, 20);
-        x.team(1, true);
-        x.clean(0, 8);
-        x.skimmer(7, 1, 1);
-        x.pass(1);
-        x.carry(1);
-        x.site(100000, 0);
-        x.site(0, 100000);
-        Check.is("24: the most of LIQUID", x.deliver(0, Slickboom.LIQUID, 1), 99999);
-        Check.is("24: the most of SOLID", x.deliver(1, Slickboom.SOLID, 1), 99999);
-        Refused.state("24: the least of SOLID", () -> withRoomFor(100000, 0), y -> y.deliver(2, Slickboom.SOLID, 1));
+    /** Promise 24: "liquid: 0 to 100000", "Throws IllegalArgumentException if an argument is out of range" */
+    private static void siteWithLiquidRoom() {
+        Check.is("24: the most of LIQUID", withRoomFor(100000, 0).deliver(2, Slickboom.LIQUID, 1), 99999);
         Refused.state("24: the least of LIQUID", () -> withRoomFor(0, 100000), y -> y.deliver(2, Slickboom.LIQUID, 1));
         Refused.ranges("24: liquid", 0, 100000, Bays::busy, (y, liquid) -> y.site(liquid, 5));
+    }
+
+    /** Promise 24: "solid: 0 to 100000", "Throws IllegalArgumentException if an argument is out of range" */
+    private static void siteWithSolidRoom() {
+        Check.is("24: the most of SOLID", withRoomFor(0, 100000).deliver(2, Slickboom.SOLID, 1), 99999);
+        Refused.state("24: the least of SOLID", () -> withRoomFor(100000, 0), y -> y.deliver(2, Slickboom.SOLID, 1));
         Refused.ranges("24: solid", 0, 100000, Bays::busy, (y, solid) -> y.site(5, solid));
     }
 
@@ -537,18 +532,22 @@ public final class ShoresTest {
         Check.is("28: none", x.due(0, 0) + x.due(0, 1), 0);
     }
 
-    /**
-     * Promise 28: "owner: 0 to 10000000", "fund: 0 to 10000000", "Throws IllegalArgumentException if an argument is
-     * out of range"
-     */
-    private static void layersInRange() {
+    /** Promise 28: "owner: 0 to 10000000", "Throws IllegalArgumentException if an argument is out of range" */
+    private static void layersOfTheOwner() {
         Slickboom x = new Slickboom();
-        x.layers(10000000, 0);
-        Check.is("28: the most of the owner", x.layers(0, 10000000), 10000000);
-        Check.is("28: the most of the fund", x.layers(10000000, 10000000), 10000000);
-        Check.is("28: the most of both", x.layers(0, 0), 20000000);
-        Check.is("28: the least of both", x.layers(5, 6), 0);
+        x.layers(10000000, 1);
+        Check.is("28: the most of the owner", x.layers(0, 1), 10000001);
+        Check.is("28: the least of the owner", x.layers(0, 0), 1);
         Refused.ranges("28: owner", 0, 10000000, Bays::busy, (y, owner) -> y.layers(owner, 5));
+    }
+
+    /** Promise 28: "fund: 0 to 10000000", "Throws IllegalArgumentException if an argument is out of range" */
+    private static void layersOfTheFund() {
+        Slickboom x = new Slickboom();
+        x.layers(1, 10000000);
+        Check.is("28: the most of the fund", x.layers(1, 0), 10000001);
+        Check.is("28: the least of the fund", x.layers(10000000, 10000000), 1);
+        Check.is("28: the most of both", x.layers(0, 0), 20000000);
         Refused.ranges("28: fund", 0, 10000000, Bays::busy, (y, fund) -> y.layers(5, fund));
     }
 

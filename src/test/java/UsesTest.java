@@ -312,10 +312,7 @@ public final class UsesTest {
         return x;
     }
 
-    /**
-     * Promise 20: "2: the first leak was more than 72 HOURS ago, or none was; 3: there is more THICK oil than FRESH;
-     * 4: the strength of the WIND is below 2"
-     */
+    /** Promise 20: "2: the first leak was more than 72 HOURS ago" */
     private static void leakMoreThan72HoursAgo() {
         for (int hour : new int[] {1, 2, 12, 30}) {
             for (int later : new int[] {0, 1, 24, 25, 71, 72}) {
@@ -327,7 +324,7 @@ public final class UsesTest {
         }
     }
 
-    /** Promise 20: "2: the first leak was more than 24 HOURS ago, or none was" */
+    /** Promise 20: "2: the first leak was more than 24 HOURS ago" */
     private static void leakMoreThan24HoursAgo() {
         for (int hour : new int[] {1, 2, 12, 30}) {
             for (int later : new int[] {0, 1, 23, 24}) {
